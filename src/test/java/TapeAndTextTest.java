@@ -116,6 +116,7 @@ public final class TapeAndTextTest {
         Check.due("signs beside the digits", Check.read("land a :"), Check.fault(7, 1));
         Check.due("two stops are two tokens", Check.read("land a 0;;"), Check.fault(9, 1));
         Check.due("text is cut off by n", cutOff("land a 0;land b", 9), 1);
+        Check.due("a number is cut off by n", cutOff("land a 12;", 8), Check.fault(8, 1));
         Check.due("a token is cut off by n", cutOff("land abcdefg", 11), Check.fault(11, 1));
     }
 
@@ -169,6 +170,8 @@ public final class TapeAndTextTest {
         Check.due("a second law behind 0", Check.read(ahead + "law a i 0;law a i 5;"), Check.fault(51, 2));
         Check.due("law and rule", Check.read(ahead + "law a i 0;rule a i f whole;"), 6);
         Check.due("an issue a second time", Check.read("issue i;issue j;deed d j i j;"), Check.fault(27, 2));
+        Check.due("a second law, others between", Check.read("land a 0;land b 0;issue i;law a i 5;law b i 5;law a i 5;"),
+                Check.fault(52, 2));
         Check.due("laws of unlike lands and issues",
                 Check.read("land a 0;land b 0;issue i;issue j;law a i 1;law a j 1;law b i 1;law b j 1;"), 8);
         Check.due("names are free again in the next text", twoTexts(), 2);
