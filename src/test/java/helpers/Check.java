@@ -6,20 +6,44 @@ import java.util.NoSuchElementException;
 final class Check {
     private static int wrong = 0;
     private static int asked = 0;
+    private static int askedAhead = 0;
+    /** The sentence of the document that is tested now, if a test tells one. */
+    private static String about = "";
 
     private Check() {
+    }
+
+    /** What is asked from now on belongs to this sentence; one about which nothing was asked is a gap. */
+    static void about(String sentence) {
+        if (!about.isEmpty() && asked == askedAhead) {
+            wrong++;
+            System.out.println(about + ": nothing was asked");
+        }
+        about = sentence;
+        askedAhead = asked;
     }
 
     static void due(String call, long got, long want) {
         asked++;
         if (got != want) {
-            wrong++;
-            System.out.println(call + " answered " + got + ", due is " + want);
+            tell(call + " answered " + got + ", due is " + want);
         }
     }
 
     static void due(String call, boolean got, boolean want) {
         due(call, got ? 1 : 0, want ? 1 : 0);
+    }
+
+    static void due(String call, String got, String want) {
+        asked++;
+        if (!got.equals(want)) {
+            tell(call + " is\n  " + got + ", due is\n  " + want);
+        }
+    }
+
+    private static void tell(String what) {
+        wrong++;
+        System.out.println((about.isEmpty() ? "" : about + ": ") + what);
     }
 
     static void ruleThrows(String call, RenvoiDesk x, int land, int issue, int what) {
@@ -67,6 +91,7 @@ final class Check {
     }
 
     static void finish() {
+        about("");
         System.out.println(asked + " answers asked, " + wrong + " not as due");
         if (wrong != 0) {
             System.exit(1);
