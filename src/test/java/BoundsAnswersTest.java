@@ -20,6 +20,7 @@ public final class BoundsAnswersTest {
         answerNoSuchIssue();
         answerOthers();
         unlikeNoneAndAll();
+        unlikeByLandsNotAnswers();
         unlikeNoSuchLand();
         unlikeNoSuchIssue();
         mostOfLikeOnes();
@@ -34,6 +35,8 @@ public final class BoundsAnswersTest {
         shopNoneSuch();
         shopNoLands();
         tallyNoneAndAll();
+        tallyOwnAnswers();
+        tallyOnAllIssues();
         tallyBelow0();
         tallyAbove99();
         Check.finish();
@@ -178,6 +181,17 @@ public final class BoundsAnswersTest {
         x.tie(2, 4);
         x.think(0, 0);
         Check.due("f comes to a, b, e, b, e", x.unlike(5, 0), 11);
+    }
+
+    private static void unlikeByLandsNotAnswers() {
+        Bounds.sentence("Promise 16", "it COMES to another LAND", "another LAND, also if it answers the same");
+        RenvoiDesk x = Check.told(LOOP);
+        for (int land = 0; land < 6; land++) {
+            x.say(land, 0, 7);
+        }
+        Check.due("f comes to a, b, b, b, f", x.unlike(5, 0), 17);
+        x.join(1, 0);
+        Check.due("on j, which none answers", x.unlike(5, 1), 17);
     }
 
     private static void unlikeNoSuchLand() {
@@ -358,6 +372,34 @@ public final class BoundsAnswersTest {
         x.say(5, 5, 0);
         Check.due("tally(99) of all but one", x.tally(99), 35);
         Check.due("tally(0) of one", x.tally(0), 1);
+    }
+
+    private static void tallyOwnAnswers() {
+        Bounds.sentence("Promise 19", "How often an OWN ANSWER is v", "OWN, not of its INNER LAW");
+        RenvoiDesk x = Check.told(LOOP);
+        Check.due("tally(10): f", x.tally(10), 1);
+        Check.due("tally(20): a, c", x.tally(20), 2);
+        Check.due("tally(30): b", x.tally(30), 1);
+        Check.due("tally(60): none", x.tally(60), 0);
+        x.think(5, 4);
+        Check.due("tally(60): f by 4", x.tally(60), 1);
+        Check.due("tally(10): none", x.tally(10), 0);
+    }
+
+    private static void tallyOnAllIssues() {
+        Bounds.sentence("Promise 19", "of all LANDS on all ISSUES", "each for itself, also if they are joined");
+        RenvoiDesk x = Check.told(LOOP);
+        for (int land = 0; land < 6; land++) {
+            x.say(land, 1, 50 + land);
+        }
+        x.join(1, 0);
+        Check.due("tally(20)", x.tally(20), 2);
+        Check.due("tally(50): f on j", x.tally(50), 1);
+        Check.due("tally(51): a, c on j", x.tally(51), 2);
+        Check.due("tally(52): b on j", x.tally(52), 1);
+        Check.due("tally(55): none", x.tally(55), 0);
+        Check.due("shop(1, 0) goes by j, too", x.shop(1, 0), 54);
+        Check.due("shop(1, 1)", x.shop(1, 1), 4);
     }
 
     private static void tallyBelow0() {

@@ -75,6 +75,13 @@ public final class BoundsDeedsTest {
         x.say(2, 0, 0);
         x.say(0, 0, 5);
         Check.due("what a answers itself is nothing", x.stands(0, 0), 0);
+        RenvoiDesk y = Check.told("land a 0;issue i;issue j;law a i 1;deed d i;deed e j;");
+        y.join(0, 1);
+        Check.due("joined, the answer is on the issue itself", y.stands(0, 0), 1);
+        Check.due("joined, the answer is on the issue itself", y.stands(1, 0), 0);
+        y.cut(0);
+        y.join(1, 0);
+        Check.due("joined, the answer is not on its head", y.stands(1, 0), 0);
     }
 
     private static void limpsSomeAndNot() {

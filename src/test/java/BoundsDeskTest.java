@@ -9,6 +9,7 @@ public final class BoundsDeskTest {
         tapeIsEmptyBehindAFault();
         textFromNowOn();
         headsAndLawsAnew();
+        manyTexts();
         howManyLines();
         nothingCanBeUndone();
         nothingIsKept();
@@ -84,6 +85,20 @@ public final class BoundsDeskTest {
         Check.due("deed(0)", x.deed(0), -1);
         Check.due("count(7)", x.count(7), 2);
         Check.due("fact(0)", x.fact(0), 0);
+    }
+
+    private static void manyTexts() {
+        Bounds.sentence("Promise 3", "are the TEXT from now on", "nothing of any one ahead, nor of one with a FAULT");
+        String bare = "land a 0;land b 0;land c 0;issue i;issue j;fact f a;fact g a;deed d i;deed e i;";
+        String due = Bounds.picture(Check.told(bare));
+        RenvoiDesk x = Check.told(Bounds.SMALL);
+        for (int turn = 0; turn < 3; turn++) {
+            Check.due("the bare text, turn " + turn, Check.desk(x, bare), 9);
+            Check.due("what is told", Bounds.picture(x), due);
+        }
+        Check.due("a fault", Check.desk(x, Bounds.SMALL + "?"), Check.fault(Bounds.SMALL.length(), 1));
+        Check.due("the bare text behind a fault", Check.desk(x, bare), 9);
+        Check.due("what is told", Bounds.picture(x), due);
     }
 
     private static void howManyLines() {

@@ -355,6 +355,14 @@ public final class BoundsPastTest {
         }
         x.join(0, 5);
         Check.due("count(4), joined", x.count(4), 36);
+        RenvoiDesk y = Check.told(Bounds.FULL);
+        for (int issue = 1; issue < 6; issue++) {
+            y.join(issue, 0);
+        }
+        Check.due("count(4), joined to one with rules", y.count(4), 4);
+        y.cut(1);
+        y.join(0, 1);
+        Check.due("count(4), joined to one without rules", y.count(4), 4);
     }
 
     private static void countActs() {

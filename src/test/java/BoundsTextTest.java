@@ -29,6 +29,8 @@ public final class BoundsTextTest {
         namesAreNoKeywords();
         namesNearKeywords();
         noTwoAlike();
+        oneLetterIsEnough();
+        allNamesAreKnown();
         Check.finish();
     }
 
@@ -217,5 +219,43 @@ public final class BoundsTextTest {
         Check.due("names of the text ahead are free", Check.desk(x, "issue a;land i 0;deed f a;fact d i;"), 4);
         Check.due("also behind a fault", Check.desk(x, "land b 0;issue j;?"), Check.fault(17, 1));
         Check.due("also behind a fault", Check.desk(x, "issue b;land j 0;"), 2);
+    }
+
+    private static void oneLetterIsEnough() {
+        Bounds.sentence("Terms 1", "no two are alike", "one other letter is enough, at each of the six places; so is one more");
+        for (int place = 0; place < 6; place++) {
+            for (char one = 'a'; one <= 'z'; one++) {
+                for (char two = 'a'; two < one; two++) {
+                    String ahead = "mnopqr".substring(0, place);
+                    String behind = "mnopqr".substring(place + 1);
+                    Bounds.sound("land " + ahead + one + behind + " 0;land " + ahead + two + behind + " 0;", 2);
+                    Bounds.sound("land " + ahead + one + " 0;land " + ahead + two + " 0;", 2);
+                }
+            }
+        }
+        for (char letter = 'a'; letter <= 'z'; letter++) {
+            String six = String.valueOf(letter).repeat(6);
+            StringBuilder text = new StringBuilder();
+            for (int letters = 1; letters <= 6; letters++) {
+                text.append("land ").append(six, 0, letters).append(" 0;");
+            }
+            Bounds.sound(text.toString(), 6);
+        }
+    }
+
+    private static void allNamesAreKnown() {
+        Bounds.sentence("Terms 1", "LANDS, ISSUES, FACTS, DEEDS are numbered as told", "all 22 NAMES that there may be are known");
+        String deeds = "deed t i;deed u i;deed v i;deed w i;deed x i;";
+        String facts = "fact o a;fact p b;fact q c;fact r d;fact s e;";
+        RenvoiDesk x = Check.told(SIX_ISSUES + deeds + SIX_LANDS + facts + "rule f n s whole;rule a i o whole;");
+        Check.due("the last fact told last", x.rule(5, 5, 0), 4);
+        Check.due("the first of each", x.rule(0, 0, 0), 0);
+        x = Check.told(SIX_ISSUES + deeds + "land a 0;" + facts.replaceAll(" [a-e];", " a;")
+                + "land b 0;land c 0;land d 0;land e 0;land f 0;law f n 7;");
+        Check.due("the last land told last", x.inner(5, 5), 7);
+        x = Check.told(SIX_LANDS + facts + "issue i;" + deeds + "issue j;issue k;issue l;issue m;issue n;law f n 8;");
+        Check.due("the last issue told last", x.inner(5, 5), 8);
+        Bounds.fault(SIX_LANDS + facts + "issue i;" + deeds + "issue j;issue k;issue l;issue m;issue ^x;", 2);
+        Bounds.fault(SIX_LANDS + facts + SIX_ISSUES + "deed t i;deed u i;deed v i;deed w i;deed ^n i;", 2);
     }
 }

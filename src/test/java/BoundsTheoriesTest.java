@@ -199,6 +199,8 @@ public final class BoundsTheoriesTest {
         Check.due("answer(0, 1, 0)", x.answer(A, 1, 0), 2);
         x.join(1, 0);
         Check.due("answer(0, 1, 0): the road of i, the answer on j", x.answer(A, 1, 0), 9);
+        Check.due("answer(0, 1, -1): also the own one", x.answer(A, 1, -1), 9);
+        Check.due("answer(0, 0, -1)", x.answer(A, 0, -1), 5);
         Check.due("answer(2, 0, 0): 0 without", x.answer(C, 0, 0), 0);
     }
 
