@@ -15,6 +15,7 @@ public final class BoundsActsTest {
         thinkOtherLands();
         pointItselfNotItsHead();
         pointNoneAnyMore();
+        pointByAFact();
         pointFirstAndLast();
         pointNoSuchLand();
         pointNoSuchIssue();
@@ -232,8 +233,20 @@ public final class BoundsActsTest {
         Check.due("count(5)", y.count(5), 1);
     }
 
+    private static void pointByAFact() {
+        Bounds.sentence("Promise 27", "by a FACT", "to the LAND that this tells, then and later");
+        RenvoiDesk x = Check.told(Bounds.FULL);
+        for (int fact = 0; fact < 5; fact++) {
+            Check.due("point(2, 3, " + fact + ", true)", x.point(2, 3, fact, true), true);
+            Check.due("rule(2, 3, 2)", x.rule(2, 3, 2), fact);
+            x.tie(fact, 5);
+            Check.due("rule(2, 3, 2), the fact told anew", x.rule(2, 3, 2), 5);
+            Check.due("rule(2, 3, 0), by the same fact", x.rule(2, 3, 0), fact);
+        }
+    }
+
     private static void pointFirstAndLast() {
-        Bounds.sentence("Promise 27", "by a FACT", "the first and the last of each, whole and inner");
+        Bounds.sentence("Promise 27", "whole or inner: true", "the first and the last of each");
         RenvoiDesk x = Check.told(Bounds.FULL);
         for (int[] each : new int[][] {{0, 0, 4}, {5, 5, 0}, {0, 5, 4}, {5, 0, 0}}) {
             Check.due("point", x.point(each[0], each[1], each[2], true), true);
@@ -519,7 +532,7 @@ public final class BoundsActsTest {
     // ---- Promise 31
 
     private static void mirrorAll() {
-        Bounds.sentence("Promise 31", "what is told of each is told of the other one: FACTS, THEORIES, RULES, answers",
+        Bounds.sentence("Promise 31", "(what is told of each is told of the other one: FACTS, THEORIES, RULES, answers): true",
                 "the first and the last, in both orders; the others stay");
         String due = Bounds.picture(Check.told("land a 1;land b 1;land c 2;land d 3;land e 4;land f 0;"
                 + "issue i;issue j;issue k;issue l;issue m;issue n;fact o f;fact p b;fact q c;fact r d;fact s e;"

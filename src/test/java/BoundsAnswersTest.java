@@ -10,6 +10,7 @@ public final class BoundsAnswersTest {
 
     public static void main(String[] args) throws IOException {
         Bounds.open(args);
+        comesByEach();
         comesByOwn();
         comesNoSuchLand();
         comesNoSuchIssue();
@@ -23,6 +24,7 @@ public final class BoundsAnswersTest {
         unlikeByLandsNotAnswers();
         unlikeNoSuchLand();
         unlikeNoSuchIssue();
+        mostOnAnIssue();
         mostOfLikeOnes();
         mostByOwnTheory();
         mostHowMany();
@@ -43,6 +45,20 @@ public final class BoundsAnswersTest {
     }
 
     // ---- Promise 14
+
+    private static void comesByEach() {
+        Bounds.sentence("Promise 14", "The LAND to whose INNER LAW it COMES by a THEORY", "each LAND by each THEORY");
+        RenvoiDesk x = Check.told(LOOP);
+        x.think(0, 3);
+        x.think(1, 3);
+        x.think(2, 1);
+        int[][] due = {{1, 2, 1, 2, 0}, {2, 1, 1, 2, 1}, {1, 2, 2, 2, 2}, {3, 3, 3, 3, 3}, {4, 4, 4, 4, 4}, {0, 1, 1, 2, 5}};
+        for (int land = 0; land < 6; land++) {
+            for (int theory = 0; theory <= 4; theory++) {
+                Check.due("comes(" + land + ", 0, " + theory + ")", x.comes(land, 0, theory), due[land][theory]);
+            }
+        }
+    }
 
     private static void comesByOwn() {
         Bounds.sentence("Promise 14", "NONE: the LAND's own one");
@@ -222,8 +238,24 @@ public final class BoundsAnswersTest {
 
     // ---- Promise 17
 
+    private static void mostOnAnIssue() {
+        Bounds.sentence("Promise 17", "The LAND to whose INNER LAW most LANDS come on an ISSUE",
+                "of each ISSUE for itself; LANDS that come, not answers that are alike");
+        RenvoiDesk x = Check.told(LANDS + "rule a i s inner;rule b i s inner;rule c j r inner;rule d j p inner;rule e j r inner;"
+                + "law c i 7;law d i 7;law f i 7;law e i 1;");
+        Check.due("most(0, 0)", x.most(0, 0), 4);
+        Check.due("most(0, 1)", x.most(0, 1), 3);
+        Check.due("most(1, 0)", x.most(1, 0), 1);
+        Check.due("most(1, 1)", x.most(1, 1), 2);
+        x.tie(3, 5);
+        Check.due("most(1, 0), the last", x.most(1, 0), 5);
+        Check.due("most(1, 1)", x.most(1, 1), 3);
+        x.join(0, 1);
+        Check.due("most(0, 0) by the head", x.most(0, 0), 5);
+    }
+
     private static void mostOfLikeOnes() {
-        Bounds.sentence("Promise 17", "of like ones the first");
+        Bounds.sentence("Promise 17", "of like ones the first) (what 0)");
         RenvoiDesk x = Check.told(LANDS + "rule e i r whole;rule f i q whole;");
         Check.due("most(0, 0): c and d have two each", x.most(0, 0), 2);
         Check.due("most(1, 0): all have one", x.most(1, 0), 0);

@@ -9,14 +9,17 @@ public final class BoundsDeedsTest {
 
     public static void main(String[] args) throws IOException {
         Bounds.open(args);
+        standsEachForItself();
         standsAbove0();
         standsOnAll();
         standsByOwnAnswers();
         limpsSomeAndNot();
+        bestOfADeed();
         bestUnlikeTheOneTold();
         bestTheFirst();
         bestTheMost();
         bestAlsoWorse();
+        fewestOfADeed();
         fewestTwoAtMost();
         fewestOther();
         standsAnswers();
@@ -39,6 +42,18 @@ public final class BoundsDeedsTest {
     }
 
     // ---- Terms 2: STANDS, LIMPS
+
+    private static void standsEachForItself() {
+        Bounds.sentence("Terms 2", "A DEED STANDS in a LAND, if the OWN ANSWERS there", "each DEED in each LAND for itself");
+        RenvoiDesk x = Check.told("land a 0;land b 0;land c 0;land d 0;issue i;issue j;law a i 1;law c i 1;law b j 1;law c j 1;"
+                + "deed k i;deed l j;deed m i j;");
+        int[] due = {5, 6, 4};
+        for (int deed = 0; deed < 3; deed++) {
+            for (int land = 0; land < 4; land++) {
+                Check.due("stands(" + deed + ", " + land + ")", x.stands(deed, land), due[deed] >> land & 1);
+            }
+        }
+    }
 
     private static void standsAbove0() {
         Bounds.sentence("Terms 2", "are above 0", "0 not, 1 and 99");
@@ -104,6 +119,37 @@ public final class BoundsDeedsTest {
         Check.due("best(" + deed + ", 0)", x.best(deed, 0), fact);
         Check.due("best(" + deed + ", 1)", x.best(deed, 1), land);
         Check.due("best(" + deed + ", 2)", x.best(deed, 2), many);
+    }
+
+    /** On i all point by f, on j by g; b alone answers on i, c alone on j. */
+    private static final String TWO_DEEDS = "land a 0;land b 0;land c 0;issue i;issue j;fact f a;fact g a;"
+            + "rule a i f inner;rule b i f inner;rule c i f inner;rule a j g inner;rule b j g inner;rule c j g inner;"
+            + "law b i 1;law c j 1;deed k i;deed l j;deed m i j;";
+
+    private static void bestOfADeed() {
+        Bounds.sentence("Terms 3", "BEST CHANGE of a DEED: of all FACTS", "of each DEED for itself");
+        RenvoiDesk x = Check.told(TWO_DEEDS);
+        best(x, 0, 0, 1, 3);
+        best(x, 1, 1, 2, 3);
+        best(x, 2, 0, 1, 0);
+        x.tie(0, 1);
+        best(x, 2, 1, 2, 3);
+    }
+
+    private static void fewestOfADeed() {
+        Bounds.sentence("Terms 3", "FEWEST of a DEED: how few FACTS (2 at most)", "of each DEED for itself");
+        RenvoiDesk x = Check.told(TWO_DEEDS);
+        fewestOfThree(x, 1, 1, 2);
+        x.tie(0, 1);
+        fewestOfThree(x, 0, 1, 1);
+        x.tie(1, 2);
+        fewestOfThree(x, 0, 0, 0);
+    }
+
+    private static void fewestOfThree(RenvoiDesk x, int... due) {
+        for (int deed = 0; deed < 3; deed++) {
+            Check.due("fewest(" + deed + ")", x.fewest(deed), due[deed]);
+        }
     }
 
     private static void bestUnlikeTheOneTold() {

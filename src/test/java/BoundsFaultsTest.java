@@ -33,7 +33,7 @@ public final class BoundsFaultsTest {
     private static final String[] FAULTS = {"issue ^?;", "issue ^a;", "fact g ^zz;", "land b ^5;", "^deed y i;"};
 
     private static void leastPlace() {
-        Bounds.sentence("Terms 1", "the one whose place is least", "of any two kinds, in both orders");
+        Bounds.sentence("Terms 1", "FAULTS, the one whose place is least", "of any two kinds, in both orders");
         String ahead = ONE_OF_EACH + "deed t i;deed u i;deed v i;deed w i;";
         for (int first = 1; first <= 5; first++) {
             for (int second = 1; second <= 5; second++) {

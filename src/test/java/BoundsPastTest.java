@@ -316,7 +316,7 @@ public final class BoundsPastTest {
     // ---- Promise 34
 
     private static void countNone() {
-        Bounds.sentence("Promise 34", "0: LANDS, 1: ISSUES, 2: FACTS, 3: DEEDS, 4: RULES", "none, one of each");
+        Bounds.sentence("Promise 34", "What 0: LANDS, 1: ISSUES, 2: FACTS, 3: DEEDS, 4: RULES", "none, some of each");
         RenvoiDesk x = new RenvoiDesk();
         for (int what = 0; what <= 7; what++) {
             Check.due("count(" + what + ") of a new one", x.count(what), 0);

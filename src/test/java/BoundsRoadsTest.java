@@ -13,7 +13,9 @@ public final class BoundsRoadsTest {
     public static void main(String[] args) throws IOException {
         Bounds.open(args);
         beginsThere();
+        byTheLandItHasComeTo();
         withoutRule();
+        asTheFactTells();
         sameOne();
         inner();
         innerWhereItHasBeen();
@@ -35,6 +37,8 @@ public final class BoundsRoadsTest {
         endsNoSuchIssue();
         trappedNoneAndAll();
         trappedNoneSuch();
+        loopsOnAnIssue();
+        loopAsBits();
         loopEachOnce();
         loopLeastFirst();
         loopHowMany();
@@ -65,6 +69,48 @@ public final class BoundsRoadsTest {
             Check.due("road(" + land + ", 0, 0)", x.road(land, 0, 0), land);
             Check.due("road(" + land + ", 1, 0)", x.road(land, 1, 0), land);
         }
+    }
+
+    private static void byTheLandItHasComeTo() {
+        Bounds.sentence("Terms 2", "Where it has come to a LAND:", "by its RULE there, not by that of the first one");
+        RenvoiDesk x = Check.told(LANDS + "issue i;fact o b;fact p c;fact q d;rule a i o whole;rule d i p whole;");
+        path(x, 0, 0, 0, 1);
+        end(x, 0, 0, 0, 1);
+        x.point(1, 0, 0, true);
+        path(x, 0, 0, 0, 1);
+        end(x, 0, 0, 1, 1);
+        x.point(1, 0, 2, false);
+        path(x, 0, 0, 0, 1, 3);
+        end(x, 0, 0, 2, 3);
+        x.point(1, 0, 2, true);
+        path(x, 0, 0, 0, 1, 3, 2);
+        end(x, 0, 0, 0, 2);
+        x.point(2, 0, 0, true);
+        path(x, 0, 0, 0, 1, 3, 2);
+        end(x, 0, 0, 3, 1);
+        x.point(0, 0, 0, false);
+        path(x, 0, 0, 0, 1);
+        path(x, 1, 0, 1, 3, 2);
+    }
+
+    private static void asTheFactTells() {
+        Bounds.sentence("Terms 2", "The RULE's FACT tells a LAND:", "all RULES by it go there, each LAND in its turn");
+        RenvoiDesk x = Check.told(LANDS + "issue i;fact o a;fact p c;rule a i o whole;rule b i o whole;rule c i o whole;"
+                + "rule d i o whole;rule e i o whole;rule f i o inner;");
+        for (int told = 0; told < 6; told++) {
+            x.tie(0, told);
+            for (int land = 0; land < 6; land++) {
+                if (land == told) {
+                    path(x, land, 0, land);
+                    end(x, land, 0, 1, land);
+                } else {
+                    path(x, land, 0, land, told);
+                    end(x, land, 0, land == 5 ? 2 : 1, told);
+                }
+            }
+        }
+        x.tie(1, 4);
+        path(x, 0, 0, 0, 5);
     }
 
     private static void withoutRule() {
@@ -262,7 +308,7 @@ public final class BoundsRoadsTest {
     // ---- Promise 11
 
     private static void endsHow() {
-        Bounds.sentence("Promise 11", "how it ENDS (0 to 3)");
+        Bounds.sentence("Promise 11", "Of a ROAD, what 0: how it ENDS (0 to 3)");
         RenvoiDesk x = Check.told(LANDS + "issue i;fact o a;fact p b;fact q c;rule b i p whole;rule c i q inner;"
                 + "rule d i o inner;rule e i p whole;rule f i o whole;");
         int[] due = {0, 1, 1, 2, 1, 0};
@@ -354,6 +400,41 @@ public final class BoundsRoadsTest {
     }
 
     // ---- Promise 13
+
+    private static void loopsOnAnIssue() {
+        Bounds.sentence("Promise 13", "The k-th of the LOOPS on an ISSUE (from 0", "of each ISSUE for itself, by its HEAD");
+        RenvoiDesk x = Check.told(LANDS + "issue i;issue j;issue k;fact o a;fact p b;fact q c;fact r d;fact s e;"
+                + "rule a i p whole;rule b i o whole;rule c i r whole;rule d i q whole;"
+                + "rule a j q whole;rule c j s whole;rule e j o whole;rule b j r whole;rule d j p whole;");
+        int[][] due = {{3, 12}, {10, 21}};
+        for (int issue = 0; issue < 2; issue++) {
+            for (int k = 0; k < 2; k++) {
+                Check.due("loop(" + issue + ", " + k + ")", x.loop(issue, k), due[issue][k]);
+            }
+        }
+        Check.due("loop(2, -1)", x.loop(2, -1), 0);
+        x.join(0, 1);
+        Check.due("loop(0, 0) by the head", x.loop(0, 0), 10);
+        Check.due("loop(0, 1) by the head", x.loop(0, 1), 21);
+    }
+
+    private static void loopAsBits() {
+        Bounds.sentence("Promise 13", "the least as bits first), as bits", "each two, and one more each time up to five");
+        for (int one = 0; one < 5; one++) {
+            for (int two = 0; two < one; two++) {
+                RenvoiDesk x = Check.told(LANDS + "issue i;fact o a;fact p b;fact q c;fact r d;fact s e;");
+                x.point(one, 0, two, true);
+                x.point(two, 0, one, true);
+                Check.due("loop of " + one + " and " + two, x.loop(0, 0), 1 << one | 1 << two);
+            }
+        }
+        RenvoiDesk x = Check.told(CHAIN);
+        for (int last = 2; last <= 5; last++) {
+            x.point(last, 0, 0, true);
+            Check.due("loop of b to " + last, x.loop(0, 0), (2 << last) - 2);
+            x.point(last, 0, last, true);
+        }
+    }
 
     private static void loopEachOnce() {
         Bounds.sentence("Promise 13", "each set of LANDS once");

@@ -75,7 +75,7 @@ public final class BoundsTapeTest {
     // ---- Terms 1: TOKENS
 
     private static void wordsOfSmallLetters() {
-        Bounds.sentence("Terms 1", "WORDS (small letters");
+        Bounds.sentence("Terms 1", "TOKENS: WORDS (small letters");
         for (char letter = 'a'; letter <= 'z'; letter++) {
             Bounds.sound("issue " + letter + ";", 1);
             Bounds.fault("issue ^" + (char) (letter - 32) + ";", 1);

@@ -89,7 +89,7 @@ public final class BoundsTextTest {
     }
 
     private static void ruleOfThree() {
-        Bounds.sentence("Terms 1", "(a LAND, an ISSUE, a FACT; WAY: whole or inner)", "LAND, ISSUE, FACT");
+        Bounds.sentence("Terms 1", "rule NAME NAME NAME WAY ; (a LAND, an ISSUE, a FACT", "LAND, ISSUE, FACT");
         RenvoiDesk x = Check.told(SIX_LANDS + SIX_ISSUES + "fact o a;fact p b;fact q c;fact r d;fact s e;"
                 + "rule f n s whole;rule a i o whole;rule a n p whole;rule f i q whole;");
         Check.due("the last of each", x.rule(5, 5, 0), 4);

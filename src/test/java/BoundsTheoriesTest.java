@@ -14,6 +14,9 @@ public final class BoundsTheoriesTest {
 
     public static void main(String[] args) throws IOException {
         Bounds.open(args);
+        ofTheLandThatIsAsked();
+        onAnIssue();
+        whoseInnerLaw();
         theory0();
         theory1OfTheNext();
         theory1ButInner();
@@ -39,6 +42,49 @@ public final class BoundsTheoriesTest {
     }
 
     // ---- Terms 2: COMES TO
+
+    private static void ofTheLandThatIsAsked() {
+        Bounds.sentence("Terms 2", "COMES TO, by a THEORY, of a LAND (that which is asked)", "whatever THEORY is its own");
+        RenvoiDesk x = told("rule f i o whole;rule a i p whole;rule b i q whole;rule c i p whole;");
+        x.think(A, 4);
+        int[] due = {A, B, B, A, F};
+        for (int own = 0; own <= 4; own++) {
+            x.think(F, own);
+            for (int theory = 0; theory <= 4; theory++) {
+                comes(x, F, theory, due[theory]);
+            }
+        }
+        comes(x, B, 0, C);
+        comes(x, C, 0, B);
+        comes(x, D, 0, D);
+    }
+
+    private static void onAnIssue() {
+        Bounds.sentence("Terms 2", "on an ISSUE, whose INNER LAW it is:", "of each ISSUE for itself");
+        RenvoiDesk x = told("rule f i o whole;rule a i p whole;rule f j q whole;rule c j s inner;");
+        int[][] due = {{A, B, B, B, B}, {C, E, E, E, E}};
+        x.think(A, 1);
+        x.think(C, 2);
+        for (int issue = 0; issue <= 1; issue++) {
+            for (int theory = 0; theory <= 4; theory++) {
+                Check.due("comes(5, " + issue + ", " + theory + ")", x.comes(F, issue, theory), due[issue][theory]);
+            }
+        }
+    }
+
+    private static void whoseInnerLaw() {
+        Bounds.sentence("Terms 2", "whose INNER LAW it is:", "it answers, not that of the LAND that is asked");
+        RenvoiDesk x = told("rule f i o whole;rule a i p whole;rule b i q whole;rule c i p whole;"
+                + "law a i 10;law b i 20;law c i 30;law d i 40;law f i 60;");
+        for (int land = 0; land < 6; land++) {
+            for (int theory = 0; theory <= 4; theory++) {
+                Check.due("answer(" + land + ", 0, " + theory + ")", x.answer(land, 0, theory),
+                        x.inner(x.comes(land, 0, theory), 0));
+            }
+        }
+        Check.due("answer(5, 0, 0)", x.answer(F, 0, 0), 10);
+        Check.due("answer(5, 0, 4)", x.answer(F, 0, 4), 60);
+    }
 
     private static void theory0() {
         Bounds.sentence("Terms 2", "0: if it has no RULE, or that points to itself: its own; else that of the one to which it points");

@@ -94,7 +94,7 @@ public final class BoundsToldTest {
     // ---- Promise 4
 
     private static void landTheory() {
-        Bounds.sentence("Promise 4", "what 0: THEORY");
+        Bounds.sentence("Promise 4", "Of a LAND, what 0: THEORY");
         RenvoiDesk x = Check.told(Bounds.FULL);
         int[] due = {0, 1, 2, 3, 4, 1};
         for (int land = 0; land < 6; land++) {
@@ -214,7 +214,7 @@ public final class BoundsToldTest {
     }
 
     private static void ruleByItsHead() {
-        Bounds.sentence("Promise 6", "(by its HEAD)");
+        Bounds.sentence("Promise 6", "The RULE of a LAND on an ISSUE (by its HEAD)");
         RenvoiDesk x = Check.told(Bounds.FULL);
         x.join(0, 5);
         Check.due("rule(0, 0, 0)", x.rule(0, 0, 0), 2);

@@ -5,9 +5,14 @@ import java.lang.reflect.Method;
 import java.lang.reflect.Modifier;
 import java.nio.file.Files;
 import java.nio.file.Path;
+import java.util.ArrayList;
 import java.util.Arrays;
+import java.util.List;
+import java.util.Map;
 import java.util.Set;
 import java.util.TreeSet;
+import java.util.regex.Matcher;
+import java.util.regex.Pattern;
 
 /** The public face as the document has it, and what of LANGUAGE.md can be seen from outside. */
 public final class FaceTest {
@@ -23,8 +28,52 @@ public final class FaceTest {
     public static void main(String[] args) throws IOException {
         members();
         nested();
-        source(Path.of(args.length > 0 ? args[0] : ".", "src", "main", "java", "RenvoiDesk.java"));
+        String text = Files.readString(Path.of(args.length > 0 ? args[0] : ".", "src", "main", "java", "RenvoiDesk.java"));
+        source(text);
+        Document document = Document.beside(args);
+        if (document == null) {
+            System.out.println("../shared/DOC.md is not there: the face is not held against it");
+        } else {
+            asTheDocumentWritesIt(document, text);
+            asTheInterfaceSays(document, text);
+        }
         Check.finish();
+    }
+
+    /** Each line of the document's face stands in the source, names and throws too; each promise has the call of one. */
+    private static void asTheDocumentWritesIt(Document document, String text) {
+        String face = document.part("The public face");
+        List<String> calls = new ArrayList<>();
+        Matcher m = Pattern.compile("public ([^;{]*\\([^;]*);").matcher(face);
+        while (m.find()) {
+            calls.add(m.group(1));
+            Check.due("in the source: " + m.group(1), text.contains("    public " + m.group(1) + " {"), true);
+        }
+        Check.due("calls of the face, with its constructor", calls.size(), FACE.length + 1);
+        Check.due("the class", face.contains("public final class RenvoiDesk {") && text.contains("\npublic final class RenvoiDesk {"), true);
+        String none = "public static final int NONE = -1;";
+        Check.due("the constant", face.contains(none) && text.contains(none), true);
+        for (int promise = 1; promise <= Document.PROMISES; promise++) {
+            Check.due("call of promise " + promise, document.call(promise), calls.get(promise - 1));
+        }
+        String first = document.part("What it is").replaceAll("\\. .*", ".");
+        Check.due("the class says: " + first, text.replaceAll("\\s+\\*? *", " ").contains(first), true);
+    }
+
+    private static void asTheInterfaceSays(Document document, String text) {
+        Map<String, List<String>> groups = document.groups();
+        Check.due("groups of calls", groups.keySet().toString(), "[roads, theories, deeds, acts]");
+        for (Map.Entry<String, List<String>> group : groups.entrySet()) {
+            int from = text.indexOf("    // ---- " + group.getKey() + "\n");
+            int to = text.indexOf("    // ---- ", from + 1);
+            String part = from < 0 ? "" : text.substring(from, to < 0 ? text.length() : to);
+            Matcher m = Pattern.compile("\n    public \\w+ (\\w+)\\(").matcher(part);
+            List<String> calls = new ArrayList<>();
+            while (m.find()) {
+                calls.add(m.group(1));
+            }
+            Check.due("calls behind ---- " + group.getKey(), calls.toString(), group.getValue().toString());
+        }
     }
 
     private static String signature(Method m) {
@@ -38,6 +87,7 @@ public final class FaceTest {
     private static void members() {
         Class<?> face = RenvoiDesk.class;
         Check.due("public and final", Modifier.isPublic(face.getModifiers()) && Modifier.isFinal(face.getModifiers()), true);
+        Check.due("NONE", RenvoiDesk.NONE, -1);
         Set<String> seen = new TreeSet<>();
         Set<String> publicNames = new TreeSet<>();
         for (Method m : face.getDeclaredMethods()) {
@@ -83,8 +133,7 @@ public final class FaceTest {
         }
     }
 
-    private static void source(Path file) throws IOException {
-        String text = Files.readString(file);
+    private static void source(String text) {
         for (String word : new String[] {"->", "::", "catch", "finally", "synchronized", "assert ", "package ", "static {",
             "Exact", "Random", "System.out", "System.nano", "System.current", "double", "float", "hashCode", "getMessage"}) {
             Check.due("'" + word + "' in the source", text.contains(word), false);

@@ -7,13 +7,19 @@ import java.util.Random;
 public final class RandomRunsTest {
     private static final int TEXTS = 30_000;
     private static final int RUNS = 2_500;
-    private static final int CALLS = 150;
+    private static final int CALLS = 200;
+    private static final int LONG_RUNS = 200;
+    /** As many as an object is used for. */
+    private static final int ALL_CALLS = 512;
+    /** A text of 700 bytes, one desk that reads it, one ahead that empties the tape. */
+    private static final int CALLS_FOR_A_TEXT = 37;
     private static final String ODD = "abcxyz 019;\n?AZ`{/:" + (char) 0 + (char) 200;
 
     private final Random chance;
     private final RenvoiDesk desk = new RenvoiDesk();
     private final Oracle oracle = new Oracle();
     private final StringBuilder ran = new StringBuilder();
+    private int called;
 
     private RandomRunsTest(long seed) {
         chance = new Random(seed);
@@ -25,23 +31,29 @@ public final class RandomRunsTest {
             run.tellText(run.spoiled(run.text()));
         }
         for (int seed = 0; seed < RUNS; seed++) {
-            new RandomRunsTest(1_000_000 + seed).run();
+            new RandomRunsTest(1_000_000 + seed).run(CALLS);
+        }
+        for (int seed = 0; seed < LONG_RUNS; seed++) {
+            RandomRunsTest run = new RandomRunsTest(2_000_000 + seed);
+            run.run(ALL_CALLS);
+            Check.due("calls of a long run", run.called, ALL_CALLS);
         }
         Check.finish();
     }
 
-    private void run() {
+    private void run(int most) {
         tellText(text());
-        for (int i = 0; i < CALLS; i++) {
-            if (chance.nextInt(60) == 0) {
+        while (called < most) {
+            if (chance.nextInt(60) == 0 && called + CALLS_FOR_A_TEXT < most) {
                 String text = text();
                 tellText(chance.nextInt(3) == 0 ? spoiled(text) : text);
             }
-            call();
+            call(most - called);
         }
     }
 
     private void due(String call, long got, long want) {
+        called++;
         ran.append(call).append(' ');
         Check.due(got == want ? call : ran.toString(), got, want);
     }
@@ -179,7 +191,7 @@ public final class RandomRunsTest {
         return b ? 1 : 0;
     }
 
-    private void call() {
+    private void call(int most) {
         int a = upTo(5);
         int b = upTo(5);
         int c = upTo(4);
@@ -215,7 +227,7 @@ public final class RandomRunsTest {
             case 29 -> due("join" + abc, desk.join(a, b), oracle.join(a, b));
             case 30 -> due("cut" + abc, desk.cut(a), oracle.cut(a));
             case 31 -> due("mirror" + abc, bit(desk.mirror(a, b)), bit(oracle.mirror(a, b)));
-            case 32, 33 -> undoSome();
+            case 32, 33 -> undoSome(most);
             case 34 -> due("keep" + abc, bit(desk.keep(c / 2, w)), bit(oracle.keep(c / 2, w)));
             default -> due("count" + abc, desk.count(a + c), oracle.count(a + c));
         }
@@ -228,9 +240,9 @@ public final class RandomRunsTest {
         }
     }
 
-    private void undoSome() {
+    private void undoSome(int most) {
         int times = chance.nextInt(12) == 0 ? 14 : 1 + chance.nextInt(2);
-        for (int i = 0; i < times; i++) {
+        for (int i = 0; i < Math.min(times, most); i++) {
             due("undo", desk.undo(), oracle.undo());
         }
     }

@@ -2,6 +2,7 @@ import java.io.IOException;
 import java.nio.file.Files;
 import java.nio.file.Path;
 import java.util.ArrayList;
+import java.util.Arrays;
 import java.util.HashMap;
 import java.util.HashSet;
 import java.util.List;
@@ -12,10 +13,18 @@ import java.util.regex.Matcher;
 import java.util.regex.Pattern;
 import java.util.stream.Stream;
 
-/** That no boundary is forgotten: each that the document names is quoted by a test of its own in the Bounds files. */
+/**
+ * That no sentence is forgotten: each boundary that the document names is quoted by a test of its own in the Bounds files,
+ * and no word of "What it is", "Terms" and the promises stands outside of all quotes.
+ */
 public final class SentencesTest {
     private static final Pattern QUOTE = Pattern.compile("Bounds\\.sentence\\(\"([^\"]*)\",\\s*\"([^\"]*)\"");
+    private static final Pattern TEST = Pattern.compile("private static void (\\w+)\\(\\) \\{");
     private static final Pattern REFUSAL = Pattern.compile("(?:NONE|-2|false|NoSuchElementException): ([^;.]*)");
+
+    /** What may stand outside: how a refusal begins (what is refused is quoted), marks of the page, what is free. */
+    private static final Pattern UNQUOTED = Pattern.compile("NONE:|-2:|false:|NoSuchElementException:|```text"
+            + "|Renvoi desk:|what later calls answer is free");
 
     /** The limits, the kinds of FAULT and what stays: words of the document that a test must quote. */
     private static final String[][] WORDS = {
@@ -54,7 +63,32 @@ public final class SentencesTest {
                 due(words[0], each, quotes, quote -> quote.contains(each));
             }
         }
+        if (document != null) {
+            noWordIsLeft("What it is", document.part("What it is"), quotes);
+            noWordIsLeft("Terms", document.part("Terms"), quotes);
+            for (int term = 1; term <= Document.TERMS; term++) {
+                noWordIsLeft("Terms " + term, document.part("Terms " + term), quotes);
+            }
+            noWordIsLeft("The constants", document.part("The constants"), quotes);
+            for (int promise = 1; promise <= Document.PROMISES; promise++) {
+                noWordIsLeft("Promise " + promise, document.words(promise), quotes);
+            }
+        }
         Check.finish();
+    }
+
+    private static void noWordIsLeft(String part, String words, Map<String, Set<String>> quotes) {
+        Check.due(part + " is there", words.isEmpty(), false);
+        char[] left = words.toCharArray();
+        for (String quote : quotes.getOrDefault(part, Set.of())) {
+            for (int at = words.indexOf(quote); at >= 0; at = words.indexOf(quote, at + 1)) {
+                Arrays.fill(left, at, at + quote.length(), '.');
+            }
+        }
+        for (String stretch : UNQUOTED.matcher(new String(left)).replaceAll(".").split("\\.+")) {
+            boolean word = stretch.chars().anyMatch(Character::isLetterOrDigit);
+            Check.due(part + ": no test quotes \"" + stretch.trim() + "\"", word, false);
+        }
     }
 
     private static void due(String part, String words, Map<String, Set<String>> quotes, Predicate<String> quoted) {
@@ -67,7 +101,9 @@ public final class SentencesTest {
         try (Stream<Path> files = Files.list(tests)) {
             for (Path file : (Iterable<Path>) files::iterator) {
                 if (file.getFileName().toString().startsWith("Bounds")) {
-                    Matcher m = QUOTE.matcher(Files.readString(file));
+                    String source = Files.readString(file);
+                    eachIsRun(file.getFileName() + "", source);
+                    Matcher m = QUOTE.matcher(source);
                     while (m.find()) {
                         all.computeIfAbsent(m.group(1), part -> new HashSet<>()).add(m.group(2));
                     }
@@ -75,6 +111,14 @@ public final class SentencesTest {
             }
         }
         return all;
+    }
+
+    /** A quote in a method that main does not run would be none. */
+    private static void eachIsRun(String file, String source) {
+        Matcher m = TEST.matcher(source);
+        while (m.find()) {
+            Check.due(file + " runs " + m.group(1), source.contains("        " + m.group(1) + "();"), true);
+        }
     }
 
     /** What stands behind "NONE:", "-2:", "false:" and "NoSuchElementException:", each case for itself. */
